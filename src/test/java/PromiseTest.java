@@ -376,6 +376,12 @@ public final class PromiseTest {
         x = withBolts(0, 400);
         x.rule(7, 1);
         due("cut(0, 90) of two", x.cut(0, 90), 310);
+        x = withBolts(1, 3, 2);
+        x.measure(0, 1);
+        x.measure(1, 1);
+        due("cut(0, 1) where every inch is a place", x.cut(0, 1), 1);
+        due("cut(0, 1) to the end", x.cut(0, 1), 0);
+        due("cut(1, 1): nothing is left of one inch", x.cut(1, 1), 0);
     }
 
     private static void join() {
@@ -409,6 +415,7 @@ public final class PromiseTest {
         due("join(2, 0): as long as can be", x.join(2, 0), 99999);
         x.bolt(1, 99999);
         due("join(2, 4): NOT is ahead of FULL", x.join(2, 4), -2);
+        due("join of one inch each", withBolts(2, 1, 1).join(0, 1), 2);
     }
 
     private static void type() {
@@ -465,6 +472,13 @@ public final class PromiseTest {
         dueTowns(" 7 , 8 , 9 ; 2 1 0 t ", 3, 7, 8, 9, 71);
         dueTowns("0000000000000000000000000000000007,08,09", 2, 7, 8, 9, 30);
         WholeMarks x = new WholeMarks();
+        due("towns() one after another", read(x, "7,8,9;012t"), 3);
+        due("towns() one after another", read(x, "4,5,6"), 2);
+        due("place(1)", x.place(1), 20);
+        due("rule: what is not told is as the document says", x.rule(3, 0), 30);
+        due("towns() one after another", read(x, "4,5,6;2"), -27);
+        due("towns() one after another", read(x, "4,5,6;12t"), 2);
+        due("rule", x.rule(3, 0), 61);
         x.bolt(1, 400);
         x.seam(7);
         read(x, "5,7,9");
@@ -865,6 +879,7 @@ public final class PromiseTest {
         x.join(0, 0);
         x.bolt(0, 700);
         x.cut(1, 35);
+        x.home();
         x.buyer(60);
         x.rate(0, 1, 1, 3);
         x.rate(3, 2, 1, 3);
@@ -902,8 +917,8 @@ public final class PromiseTest {
         due("image() takes the place of the first", x.image(), 1);
         x.home();
         x.restore();
-        due("count(3)", x.count(3), 2);
-        due("count(4)", x.count(4), 110);
+        due("count(3)", x.count(3), 1);
+        due("count(4)", x.count(4), 60);
         due("seam(1)", x.seam(1), 6);
     }
 
@@ -1021,6 +1036,10 @@ public final class PromiseTest {
         due("fit(0) of 62: 2 and 31", x.fit(1, SHORTS, 4, 1, 0), 1);
         due("fit(1) of 62", x.fit(1, SHORTS, 4, 1, 1), 231);
         due("fit(0) of 59", x.fit(1, SHORTS, 5, 1, 0), 0);
+        x.item(1, SHORTS, 5, 122);
+        due("fit(0) of 122: 61 is too much", x.fit(1, SHORTS, 5, 1, 0), 0);
+        x.item(1, SHORTS, 5, 118);
+        due("fit(1) of 118: 2 and 59", x.fit(1, SHORTS, 5, 1, 1), 259);
         fill(x, 2, LONGS, (1L << 32) + 60);
         due("fit of a long above", x.fit(2, LONGS, 0, 1, 0), -2);
     }
