@@ -724,12 +724,13 @@ public final class PromiseTest {
         x.bolt(0, 100);
         x.bolt(1, 72);
         x.bolt(2, 25);
-        // by measure 1 the places are all that 36 or 30 measure: 90, 72, none
+        x.bolt(3, 150);
+        // by measure 1 the places are all that 36 or 30 measure: 90, 72, none, 150
         due("third(0)", x.third(0), 1);
         due("third(1)", x.third(1), 35);
         due("the measure stays", x.measure(2, 44), 45);
         due("the rule stays", x.rule(3, 0), 30);
-        due("the waste stays", x.count(5), 197);
+        due("the waste stays", x.count(5), 347);
         x.measure(0, 20);
         due("third(1) by other measures", x.third(1), 100 - 100 + 72 - 60 + 25 - 20);
     }
