@@ -1059,8 +1059,9 @@ public final class WholeMarks {
             length = n;
         }
 
+        /** Whether n items from i on are there; asks for the room too, so that who copies them need not. */
         boolean spans(int i, int n) {
-            return i >= 0 && n >= 0 && n <= length && i <= length - n;
+            return i >= 0 && n >= 0 && n <= length && i <= length - n && length <= items.length;
         }
 
         void write(int i, long v) {

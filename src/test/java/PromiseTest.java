@@ -1,23 +1,5 @@
 /** For each promise: ordinary inputs, the edges that the document names, and wrong inputs; worked out by hand. */
-public final class PromiseTest {
-    private static final int MIN = Integer.MIN_VALUE;
-    private static final int MAX = Integer.MAX_VALUE;
-    private static final int SHORTS = 0;
-    private static final int INTS = 1;
-    private static final int LONGS = 2;
-
-    private static int promise;
-    private static int told;
-    private static int wrong;
-
-    private static void due(String call, long got, long want) {
-        told++;
-        if (got != want) {
-            wrong++;
-            System.out.println("promise " + promise + ": " + call + " answered " + got + ", due is " + want);
-        }
-    }
-
+public final class PromiseTest extends Sentences {
     public static void main(String[] args) {
         towns();
         bolts();
@@ -27,172 +9,97 @@ public final class PromiseTest {
         coins();
         images();
         sheets();
-        System.out.println(told + " answers asked, " + wrong + " wrong");
-        if (wrong != 0 || told == 0) {
-            System.exit(1);
-        }
+        tellAndExit();
     }
 
     private static void towns() {
-        promise = 1;
+        says("Promise 1", "A new object");
         newObject();
-        promise = 2;
+        says("Promise 2", "measure");
         measure();
-        promise = 3;
+        says("Promise 3", "rule");
         rule();
-        promise = 4;
+        says("Promise 4", "seam");
         seam();
-        promise = 5;
+        says("Promise 5", "place");
         place();
-        promise = 6;
+        says("Promise 6", "places");
         places();
     }
 
     private static void bolts() {
-        promise = 7;
+        says("Promise 7", "bolt");
         bolt();
-        promise = 8;
+        says("Promise 8", "told");
         told();
-        promise = 9;
+        says("Promise 9", "cut");
         cut();
-        promise = 10;
+        says("Promise 10", "join");
         join();
     }
 
     private static void tape() {
-        promise = 11;
+        says("Promise 11", "type");
         type();
-        promise = 12;
+        says("Promise 12", "towns");
         readTowns();
         faults();
-        promise = 13;
+        says("Promise 13", "count");
         count();
     }
 
     private static void groups() {
-        promise = 14;
+        says("Promise 14", "most");
         most();
         mostAfresh();
-        promise = 15;
+        says("Promise 15", "buyer");
         buyer();
-        promise = 16;
+        says("Promise 16", "home");
         home();
-        promise = 17;
+        says("Promise 17", "price");
         price();
-        promise = 18;
+        says("Promise 18", "parties");
         parties();
     }
 
     private static void measures() {
-        promise = 19;
+        says("Promise 19", "third");
         third();
-        promise = 20;
+        says("Promise 20", "worn");
         worn();
     }
 
     private static void coins() {
-        promise = 21;
+        says("Promise 21", "rate");
         rate();
-        promise = 22;
+        says("Promise 22", "rings");
         rings();
-        promise = 23;
+        says("Promise 23", "turn");
         turn();
     }
 
     private static void images() {
-        promise = 24;
+        says("Promise 24", "image");
         image();
-        promise = 25;
+        says("Promise 25", "restore");
         restore();
     }
 
     private static void sheets() {
-        promise = 26;
+        says("Promise 26", "leaves");
         leaves();
-        promise = 27;
+        says("Promise 27", "fit");
         fit();
-        promise = 28;
+        says("Promise 28", "film");
         film();
-        promise = 29;
+        says("Promise 29", "sheet");
         sheet();
-        promise = 30;
+        says("Promise 30", "drop");
         drop();
-        promise = 31;
+        says("Promise 31", "item");
         item();
-        promise = 32;
+        says("Promise 32", "copy");
         copy();
-    }
-
-    // ---- what the tests need
-
-    /** Types a text of any length, eight bytes a call. */
-    private static void write(WholeMarks x, String text) {
-        for (int from = 0; from < text.length(); from += 8) {
-            String part = text.substring(from, Math.min(text.length(), from + 8));
-            long w = 0;
-            for (int i = 0; i < part.length(); i++) {
-                w = w << 8 | part.charAt(i);
-            }
-            x.type(w, part.length());
-        }
-    }
-
-    private static int read(WholeMarks x, String text) {
-        write(x, text);
-        return x.towns();
-    }
-
-    private static void fill(WholeMarks x, int sheet, int lane, long... items) {
-        x.sheet(sheet, lane, items.length);
-        for (int i = 0; i < items.length; i++) {
-            x.item(sheet, lane, i, items[i]);
-        }
-    }
-
-    /** Whether an item is v (2 .. 9999): where every inch is a place, a buyer leaves from v - 1 and not from v. */
-    private static boolean isItem(WholeMarks x, int sheet, int lane, int i, int v) {
-        x.measure(0, 1);
-        x.measure(1, 1);
-        x.rule(3, 0);
-        x.home();
-        x.buyer(v);
-        boolean notMore = x.leaves(sheet, lane, i) == WholeMarks.NONE;
-        x.home();
-        x.buyer(v - 1);
-        boolean notLess = x.leaves(sheet, lane, i) == 1;
-        x.home();
-        return notMore && notLess;
-    }
-
-    private static void dueItems(WholeMarks x, int sheet, int lane, int... items) {
-        for (int i = 0; i < items.length; i++) {
-            due("item " + i + " of sheet " + sheet + " is " + items[i], isItem(x, sheet, lane, i, items[i]) ? 1 : 0, 1);
-        }
-    }
-
-    private static WholeMarks withMeasures(int a, int b, int c, int set, int law) {
-        WholeMarks x = new WholeMarks();
-        x.measure(0, a);
-        x.measure(1, b);
-        x.measure(2, c);
-        x.rule(set, law);
-        return x;
-    }
-
-    private static WholeMarks withBuyers(int... wants) {
-        WholeMarks x = new WholeMarks();
-        for (int w : wants) {
-            x.buyer(w);
-        }
-        return x;
-    }
-
-    private static WholeMarks withBolts(int cloth, int... lengths) {
-        WholeMarks x = new WholeMarks();
-        for (int length : lengths) {
-            x.bolt(cloth, length);
-        }
-        return x;
     }
 
     // ---- 1 towns, bolts
@@ -560,16 +467,6 @@ public final class PromiseTest {
 
     // ---- 2 most, parties
 
-    private static void dueMost(WholeMarks x, int cloth, int inches, int... row) {
-        due("most(" + cloth + ", -1)", x.most(cloth, -1), inches);
-        for (int i = 0; i < row.length; i++) {
-            due("most(" + cloth + ", " + i + ")", x.most(cloth, i), row[i]);
-        }
-        for (int i = row.length; i < 8; i++) {
-            due("most(" + cloth + ", " + i + ")", x.most(cloth, i), -4);
-        }
-    }
-
     private static void most() {
         dueMost(new WholeMarks(), 0, 0);
         dueMost(withBolts(0, 100, 100), 0, 180, 0, 0);
@@ -679,16 +576,6 @@ public final class PromiseTest {
         due("price(1) far off", x.price(1), 994010994L);
     }
 
-    private static void dueParties(WholeMarks x, int k, long prices, int... row) {
-        due("parties(" + k + ", -1)", x.parties(k, -1), prices);
-        for (int i = 0; i < row.length; i++) {
-            due("parties(" + k + ", " + i + ")", x.parties(k, i), row[i]);
-        }
-        for (int i = row.length; i < 6; i++) {
-            due("parties(" + k + ", " + i + ")", x.parties(k, i), -4);
-        }
-    }
-
     private static void parties() {
         dueParties(withBuyers(60, 60, 60), 1, 540, 0, 1, 2);
         dueParties(withBuyers(60, 60, 60), 2, 360, 0, 0, 1);
@@ -780,11 +667,6 @@ public final class PromiseTest {
         due("rate(1, 0) after what was refused", x.rate(1, 0, 1, 1), 507);
     }
 
-    private static void dueRings(WholeMarks x, int many, int first) {
-        due("rings(0)", x.rings(0), many);
-        due("rings(1)", x.rings(1), first);
-    }
-
     private static void rings() {
         WholeMarks x = new WholeMarks();
         dueRings(x, 0, -4);
@@ -817,13 +699,6 @@ public final class PromiseTest {
             x.rate(pair / 4, pair % 4, 99, 98);
         }
         dueRings(x, 20, 12);
-    }
-
-    private static void dueTurn(WholeMarks x, int coin, int n, long most, int... row) {
-        due("turn(" + coin + ", " + n + ", " + row.length + ", -1)", x.turn(coin, n, row.length, -1), most);
-        for (int i = 0; i < row.length; i++) {
-            due("turn(" + coin + ", " + n + ", " + row.length + ", " + i + ")", x.turn(coin, n, row.length, i), row[i]);
-        }
     }
 
     private static void turn() {
