@@ -388,54 +388,6 @@ public final class CoinsSentencesTest extends Sentences {
 
     // ---- image, restore
 
-    private static WholeMarks withAll() {
-        WholeMarks x = withMeasures(20, 15, 12, 7, 1);
-        x.bolt(1, 100);
-        x.bolt(2, 90);
-        x.cut(0, 60);
-        x.buyer(50);
-        x.buyer(51);
-        x.seam(5);
-        x.rate(0, 1, 3, 2);
-        return x;
-    }
-
-    private static void changeAll(WholeMarks x) {
-        x.measure(0, 5);
-        x.measure(1, 6);
-        x.measure(2, 7);
-        x.rule(5, 0);
-        x.seam(6);
-        x.cut(1, 35);
-        x.bolt(0, 700);
-        x.bolt(1, 800);
-        x.join(0, 3);
-        x.home();
-        x.buyer(60);
-        x.rate(0, 1, 1, 3);
-        x.rate(3, 2, 1, 3);
-    }
-
-    private static void dueAllOfIt(WholeMarks x) {
-        due("count(0)", x.count(0), 2);
-        due("count(1)", x.count(1), 129);
-        due("count(2)", x.count(2), 60);
-        due("count(3)", x.count(3), 2);
-        due("count(4)", x.count(4), 101);
-        due("told(0, 0)", x.told(0, 0), 1);
-        due("told(0, 1)", x.told(0, 1), 39);
-        due("told(1, 0)", x.told(1, 0), 2);
-        due("told(1, 1)", x.told(1, 1), 90);
-        due("price(1)", x.price(1), 60);
-        due("rate(0, 1, 3, 2)", x.rate(0, 1, 3, 2), 302);
-        due("rate(3, 2, 1, 1)", x.rate(3, 2, 1, 1), 101);
-        due("seam(5)", x.seam(5), 5);
-        due("rule(7, 1)", x.rule(7, 1), 71);
-        due("measure(0, 20)", x.measure(0, 20), 20);
-        due("measure(1, 15)", x.measure(1, 15), 15);
-        due("measure(2, 12)", x.measure(2, 12), 12);
-    }
-
     private static void image() {
         says("Promise 24", "kept as an IMAGE: 1; nothing else is changed by it");
         WholeMarks x = withAll();

@@ -79,4 +79,33 @@ abstract class Given {
         }
         return x;
     }
+
+    /** With something of all that an image keeps. */
+    static WholeMarks withAll() {
+        WholeMarks x = withMeasures(20, 15, 12, 7, 1);
+        x.bolt(1, 100);
+        x.bolt(2, 90);
+        x.cut(0, 60);
+        x.buyer(50);
+        x.buyer(51);
+        x.seam(5);
+        x.rate(0, 1, 3, 2);
+        return x;
+    }
+
+    static void changeAll(WholeMarks x) {
+        x.measure(0, 5);
+        x.measure(1, 6);
+        x.measure(2, 7);
+        x.rule(5, 0);
+        x.seam(6);
+        x.cut(1, 35);
+        x.bolt(0, 700);
+        x.bolt(1, 800);
+        x.join(0, 3);
+        x.home();
+        x.buyer(60);
+        x.rate(0, 1, 1, 3);
+        x.rate(3, 2, 1, 3);
+    }
 }

@@ -355,16 +355,6 @@ public final class PromiseTest extends Sentences {
         due("measure(2, 1)", x.measure(2, 1), 3);
     }
 
-    private static void dueTowns(String text, int counting, int a, int b, int c, int rule) {
-        WholeMarks x = withMeasures(11, 12, 13, 6, 1);
-        due("towns() of '" + text + "'", read(x, text), counting);
-        due("measure 0 by '" + text + "'", x.measure(0, 1), a);
-        due("measure 1 by '" + text + "'", x.measure(1, 1), b);
-        due("measure 2 by '" + text + "'", x.measure(2, 1), c);
-        due("rule by '" + text + "'", x.rule(3, 0), rule);
-        due("the tape behind '" + text + "'", x.type(65, 1), 1);
-    }
-
     private static void readTowns() {
         dueTowns("1,2,3", 2, 1, 2, 3, 30);
         dueTowns("999,998,997", 2, 999, 998, 997, 30);
@@ -394,53 +384,43 @@ public final class PromiseTest extends Sentences {
         due("places are the new ones", x.told(0, 2), 385);
     }
 
-    private static void dueFault(String text, int fault) {
-        WholeMarks x = withMeasures(11, 12, 13, 6, 1);
-        due("towns() of '" + text + "'", read(x, text), fault);
-        due("measure 0 behind '" + text + "'", x.measure(0, 1), 11);
-        due("measure 1 behind '" + text + "'", x.measure(1, 1), 12);
-        due("measure 2 behind '" + text + "'", x.measure(2, 1), 13);
-        due("rule behind '" + text + "'", x.rule(3, 0), 61);
-        due("the tape behind '" + text + "'", x.type(65, 1), 1);
-    }
-
     private static void faults() {
-        dueFault("", -20);
-        dueFault("   ", -23);
-        dueFault("0,2,3", -20);
-        dueFault("  000,2,3", -22);
-        dueFault("1000,2,3", -20);
-        dueFault("1, 1000,3", -23);
-        dueFault("1,2,3000", -24);
-        dueFault("1,2,4294967297", -24);
-        dueFault("1,2,18446744073709551617", -24);
-        dueFault("-1,2,3", -20);
-        dueFault("1,2", -23);
-        dueFault("1,2  ", -25);
-        dueFault("1,2,", -24);
-        dueFault("1,,3", -22);
-        dueFault("1 2,3,4", -22);
-        dueFault("1,2,3 4", -26);
-        dueFault("1,2,3,4", -25);
-        dueFault("1,2,3x", -25);
-        dueFault("1;2,3", -21);
-        dueFault("1,2,3;", -26);
-        dueFault("1,2,3; ", -27);
-        dueFault("1,2,3;t", -26);
-        dueFault("1,2,3;0", -27);
-        dueFault("1,2,3;0t", -27);
-        dueFault("1,2,3;3", -26);
-        dueFault("1,2,3;00", -27);
-        dueFault("1,2,3;0 0", -28);
-        dueFault("1,2,3;013", -28);
-        dueFault("1,2,3;011", -28);
-        dueFault("1,2,3;0120", -29);
-        dueFault("1,2,3;01 , ", -29);
-        dueFault("1,2,3tt", -26);
-        dueFault("1,2,3t;01", -26);
-        dueFault("1,2,3T", -25);
-        dueFault("1,2,3;01t2", -29);
-        dueFault("1,2,3                                 ;0", -60);
+        dueFault("", 0);
+        dueFault("   ", 3);
+        dueFault("0,2,3", 0);
+        dueFault("  000,2,3", 2);
+        dueFault("1000,2,3", 0);
+        dueFault("1, 1000,3", 3);
+        dueFault("1,2,3000", 4);
+        dueFault("1,2,4294967297", 4);
+        dueFault("1,2,18446744073709551617", 4);
+        dueFault("-1,2,3", 0);
+        dueFault("1,2", 3);
+        dueFault("1,2  ", 5);
+        dueFault("1,2,", 4);
+        dueFault("1,,3", 2);
+        dueFault("1 2,3,4", 2);
+        dueFault("1,2,3 4", 6);
+        dueFault("1,2,3,4", 5);
+        dueFault("1,2,3x", 5);
+        dueFault("1;2,3", 1);
+        dueFault("1,2,3;", 6);
+        dueFault("1,2,3; ", 7);
+        dueFault("1,2,3;t", 6);
+        dueFault("1,2,3;0", 7);
+        dueFault("1,2,3;0t", 7);
+        dueFault("1,2,3;3", 6);
+        dueFault("1,2,3;00", 7);
+        dueFault("1,2,3;0 0", 8);
+        dueFault("1,2,3;013", 8);
+        dueFault("1,2,3;011", 8);
+        dueFault("1,2,3;0120", 9);
+        dueFault("1,2,3;01 , ", 9);
+        dueFault("1,2,3tt", 6);
+        dueFault("1,2,3t;01", 6);
+        dueFault("1,2,3T", 5);
+        dueFault("1,2,3;01t2", 9);
+        dueFault("1,2,3                                 ;0", 40);
     }
 
     private static void count() {
@@ -736,51 +716,6 @@ public final class PromiseTest extends Sentences {
             x.rate(pair / 4, pair % 4, 99, 1);
         }
         dueTurn(x, 2, 999999, 999999L * 99 * 99 * 99 * 99 * 99, 0, 1, 0, 1, 2);
-    }
-
-    private static WholeMarks withAll() {
-        WholeMarks x = withMeasures(20, 15, 12, 7, 1);
-        x.bolt(1, 100);
-        x.bolt(2, 90);
-        x.cut(0, 60);
-        x.buyer(50);
-        x.seam(5);
-        x.rate(0, 1, 3, 2);
-        return x;
-    }
-
-    private static void changeAll(WholeMarks x) {
-        read(x, "5,6,7;02");
-        x.seam(6);
-        x.join(0, 0);
-        x.bolt(0, 700);
-        x.cut(1, 35);
-        x.home();
-        x.buyer(60);
-        x.rate(0, 1, 1, 3);
-        x.rate(3, 2, 1, 3);
-    }
-
-    private static void dueAllOfIt(WholeMarks x) {
-        due("count(0)", x.count(0), 2);
-        due("count(1)", x.count(1), 39 + 90);
-        due("count(2)", x.count(2), 60);
-        due("count(3)", x.count(3), 1);
-        due("count(4)", x.count(4), 50);
-        due("told(0, 0)", x.told(0, 0), 1);
-        due("told(0, 1)", x.told(0, 1), 39);
-        due("told(1, 0)", x.told(1, 0), 2);
-        due("told(1, 1)", x.told(1, 1), 90);
-        due("told(2, 0)", x.told(2, 0), -1);
-        due("rate(0, 1)", x.rate(0, 1, 1, 1), 302);
-        due("rate(3, 2)", x.rate(3, 2, 1, 1), 101);
-        due("seam", x.seam(1), 5);
-        due("rule", x.rule(3, 0), 71);
-        due("measure 0", x.measure(0, 1), 20);
-        due("measure 1", x.measure(1, 1), 15);
-        due("measure 2", x.measure(2, 1), 12);
-        due("buyers take the next number", x.buyer(1), 1);
-        due("bolts take the next number", x.bolt(0, 1), 2);
     }
 
     private static void image() {

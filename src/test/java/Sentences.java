@@ -61,6 +61,46 @@ abstract class Sentences extends Given {
         }
     }
 
+    static void dueTowns(String text, int counting, int a, int b, int c, int rule) {
+        WholeMarks x = withMeasures(11, 12, 13, 6, 1);
+        due("towns() of '" + text + "'", read(x, text), counting);
+        due("measure 0 by '" + text + "'", x.measure(0, 1), a);
+        due("measure 1 by '" + text + "'", x.measure(1, 1), b);
+        due("measure 2 by '" + text + "'", x.measure(2, 1), c);
+        due("rule by '" + text + "'", x.rule(3, 0), rule);
+        due("the tape behind '" + text + "'", x.type(65, 1), 1);
+    }
+
+    static void dueFault(String text, int place) {
+        WholeMarks x = withMeasures(11, 12, 13, 6, 1);
+        due("towns() of '" + text + "'", read(x, text), -20 - place);
+        due("measure 0 behind '" + text + "'", x.measure(0, 1), 11);
+        due("measure 1 behind '" + text + "'", x.measure(1, 1), 12);
+        due("measure 2 behind '" + text + "'", x.measure(2, 1), 13);
+        due("rule behind '" + text + "'", x.rule(3, 0), 61);
+        due("the tape behind '" + text + "'", x.type(65, 1), 1);
+    }
+
+    static void dueAllOfIt(WholeMarks x) {
+        due("count(0)", x.count(0), 2);
+        due("count(1)", x.count(1), 129);
+        due("count(2)", x.count(2), 60);
+        due("count(3)", x.count(3), 2);
+        due("count(4)", x.count(4), 101);
+        due("told(0, 0)", x.told(0, 0), 1);
+        due("told(0, 1)", x.told(0, 1), 39);
+        due("told(1, 0)", x.told(1, 0), 2);
+        due("told(1, 1)", x.told(1, 1), 90);
+        due("price(1)", x.price(1), 60);
+        due("rate(0, 1, 3, 2)", x.rate(0, 1, 3, 2), 302);
+        due("rate(3, 2, 1, 1)", x.rate(3, 2, 1, 1), 101);
+        due("seam(5)", x.seam(5), 5);
+        due("rule(7, 1)", x.rule(7, 1), 71);
+        due("measure(0, 20)", x.measure(0, 20), 20);
+        due("measure(1, 15)", x.measure(1, 15), 15);
+        due("measure(2, 12)", x.measure(2, 12), 12);
+    }
+
     static void tellAndExit() {
         endSentence();
         System.out.println(sentences + " sentences, " + answers + " answers asked, " + wrong + " wrong");

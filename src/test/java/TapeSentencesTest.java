@@ -123,24 +123,6 @@ public final class TapeSentencesTest extends Sentences {
 
     // ---- towns
 
-    private static void dueTowns(String text, int counting, int a, int b, int c, int rule) {
-        WholeMarks x = withMeasures(11, 12, 13, 6, 1);
-        due("towns() of '" + text + "'", read(x, text), counting);
-        due("measure 0 by '" + text + "'", x.measure(0, 1), a);
-        due("measure 1 by '" + text + "'", x.measure(1, 1), b);
-        due("measure 2 by '" + text + "'", x.measure(2, 1), c);
-        due("rule by '" + text + "'", x.rule(3, 0), rule);
-    }
-
-    private static void dueFault(String text, int place) {
-        WholeMarks x = withMeasures(11, 12, 13, 6, 1);
-        due("towns() of '" + text + "'", read(x, text), -20 - place);
-        due("measure 0 behind '" + text + "'", x.measure(0, 1), 11);
-        due("measure 1 behind '" + text + "'", x.measure(1, 1), 12);
-        due("measure 2 behind '" + text + "'", x.measure(2, 1), 13);
-        due("rule behind '" + text + "'", x.rule(3, 0), 61);
-    }
-
     private static void townsRead() {
         says("Terms", "three numbers 1 .. 999 with , between: just inside");
         dueTowns("1,1,1", 2, 1, 1, 1, 30);
