@@ -214,12 +214,12 @@ public final class WholeMarks {
             return BAD;
         }
         int[] measures = market.towns.measures;
-        int best = 1;
-        int least = Integer.MAX_VALUE;
+        int best = 0;
+        int least = 0;
         for (int v = 1; v <= THIRD_MOST; v++) {
             marks.meetTwoOfThree(Numbers.at(measures, 0), Numbers.at(measures, 1), v);
             int waste = market.bolts.waste(marks);
-            if (waste < least) {
+            if (best == 0 || waste < least) {
                 least = waste;
                 best = v;
             }
@@ -616,6 +616,7 @@ public final class WholeMarks {
     /** Where marks meet: at the multiples of one step, or of any of three. */
     private static final class Marks {
         private static final int HALVINGS = 64;
+        private static final long BEYOND_ALL = 1L << 62;
 
         private final long[] steps = new long[TOWNS];
         private int kinds;
@@ -654,7 +655,7 @@ public final class WholeMarks {
         }
 
         long firstFrom(long length) {
-            long first = Long.MAX_VALUE;
+            long first = BEYOND_ALL;
             for (int s = 0; s < kinds; s++) {
                 long step = Numbers.at(steps, s);
                 first = Math.min(first, Numbers.quotient(length + step - 1, step) * step);
@@ -668,7 +669,7 @@ public final class WholeMarks {
 
         long nth(int i) {
             long low = 1;
-            long high = Long.MAX_VALUE;
+            long high = BEYOND_ALL;
             for (int s = 0; s < kinds; s++) {
                 high = Math.min(high, i * Numbers.at(steps, s));
             }

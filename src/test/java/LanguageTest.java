@@ -30,6 +30,8 @@ public final class LanguageTest {
         "\\bassert\\b", "\\bvar\\b", "\\bprotected\\b", "\\bInteger\\.parse", "Exact\\b", "\\bRandom\\b", "\\bThread\\b", "\\bObject\\b",
         "\\bSystem\\.(?!arraycopy\\b)", "\\bjava\\.", "\\bequals\\b", "\\bhashCode\\b", "\\btoString\\b", "\\bHash", "\\bstatic\\s*\\{",
         "\\bNaN\\b", "\\bvolatile\\b", "\\bnative\\b", "@"};
+    /** All that the class takes of the library, and rule 4 lists. */
+    private static final Set<String> LIBRARY = Set.of("System.arraycopy", "Math.min", "Math.max", "Integer.bitCount");
 
     private static int told;
     private static int wrong;
@@ -124,6 +126,10 @@ public final class LanguageTest {
         for (String out : LEFT_OUT) {
             Matcher found = Pattern.compile(out).matcher(bare);
             due("the text has no " + out, !found.find());
+        }
+        Matcher taken = Pattern.compile("\\b(?:System|Math|StrictMath|Integer|Long|Short|Byte|Character|Arrays|List|String)\\.\\w+").matcher(bare);
+        while (taken.find()) {
+            due("rule 4 lists " + taken.group(), LIBRARY.contains(taken.group()));
         }
         due("signs are 1 to 127", bare.chars().allMatch(c -> c > 0 && c < 128));
         int lines = 0;
